@@ -980,10 +980,7 @@ public final class Blockduty {
             forgetPieces();
             row.copy(taken);
             for (int k = 0; k < row.count(); k++) {
-                Trip trip = row.trips.get(k);
-                trip.block = this;
-                // Of the other block's pieces, which go as well.
-                trip.piece = null;
+                row.trips.get(k).block = this;
             }
         }
 

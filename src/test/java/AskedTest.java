@@ -126,6 +126,17 @@ public final class AskedTest {
         Check.is("19: REAL END with its own DELAY", 192, x.ofTrip(1, 10));
         Check.is("19: the third", 22, x.ofTrip(2, 9));
         Check.is("24: the greatest", 22, x.many(8));
+        Blockduty first = new Blockduty();
+        first.trip(0, 0, 0, 200, 30);
+        first.trip(0, 0, 0, 100, 90);
+        first.block(999);
+        first.append(0, 1);
+        first.append(0, 0);
+        first.cut(0);
+        first.driver();
+        first.give(0, 0, 0);
+        first.delay(1, 16);
+        Check.is("24: the greatest is of the first TRIP", 6, first.many(8));
     }
 
     private static void lostAreNotWaitedFor() {

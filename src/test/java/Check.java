@@ -43,6 +43,7 @@ final class Check {
             call.answer();
         } catch (RuntimeException e) {
             thrown = e.getClass();
+            isByTheClass(label, e);
         }
         if (thrown != want) {
             wrong++;
@@ -52,6 +53,13 @@ final class Check {
             wrong++;
             System.out.println(label + ": changed the digest");
         }
+    }
+
+    /** The machine throws in its own library; the class has to look first, and to throw itself. */
+    static void isByTheClass(String label, RuntimeException thrown) {
+        StackTraceElement[] trace = thrown.getStackTrace();
+        isTrue(label + ": thrown by the class itself",
+                trace.length > 0 && trace[0].getClassName().equals("Blockduty"));
     }
 
     static void outside(String label, Blockduty x, Call call) {

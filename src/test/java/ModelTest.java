@@ -69,6 +69,7 @@ public final class ModelTest {
             answer = made.get();
         } catch (RuntimeException e) {
             got = e.getClass();
+            Check.isByTheClass(label, e);
         }
         Check.isTrue(label + " threw " + got + ", due is " + thrown, got == thrown);
         if (thrown == null) {

@@ -131,6 +131,12 @@ public final class SupposedTest {
         Check.is("29: up to the BREAKDOWN", 29, x.mayDelay(0));
         x.takeBack(0, 0);
         Check.is("29: LOST", 120, x.mayDelay(0));
+        Blockduty brink = County.running();
+        brink.delay(0, 20);
+        brink.breakdown(0, 601);
+        Check.is("29: not even 1", 0, brink.mayDelay(1));
+        brink.breakdown(0, 602);
+        Check.is("29: just 1", 1, brink.mayDelay(1));
         Blockduty alone = County.hourly(1);
         Check.is("29: without a BLOCK", 120, alone.mayDelay(0));
     }
@@ -281,6 +287,21 @@ public final class SupposedTest {
         Blockduty run = County.running();
         run.delay(0, 20);
         Check.isLong("31: one BLOCK", summed(run), run.digest());
+        for (int late = 9; late <= 11; late++) {
+            run.delay(1, late);
+            Check.isLong("31: about the minute of wouldLose", summed(run), run.digest());
+        }
+        run.delay(1, 0);
+        for (int start = 599; start <= 601; start++) {
+            Blockduty near = new Blockduty();
+            near.trip(0, 0, 0, start, 30);
+            near.block(100);
+            near.append(0, 0);
+            near.cut(0);
+            near.driver();
+            near.give(0, 0, 0);
+            Check.isLong("31: begins at " + start, summed(near), near.digest());
+        }
         run.block(300);
         run.driver();
         Check.isLong("31: two BLOCKS", summed(run), run.digest());

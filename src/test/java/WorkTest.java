@@ -67,6 +67,8 @@ public final class WorkTest {
         Check.is("13: just the DRIVE", 2, cutAll(County.hourly(4), 900, 100));
         Check.is("13: one minute less", 4, cutAll(County.hourly(4), 900, 99));
         Check.is("13: all", 1, cutAll(County.hourly(4), 900, 200));
+        Check.is("13: the first DRIVE", 1, cutAsNew(0));
+        Check.is("13: the first DRIVE and 1", 2, cutAsNew(1));
         // A trip alone may be too long for every PIECE.
         Blockduty x = new Blockduty();
         x.trip(0, 0, 0, 0, 60);
@@ -83,6 +85,18 @@ public final class WorkTest {
         x.rules(900, 61);
         Check.is("13: now it can", 1, x.cut(0));
         Check.is("13: not in pieces", 161, x.ofPiece(0, 0, 3));
+    }
+
+    /** Two TRIPS of 120 together, or a bit more, by the DRIVE of a new object. */
+    private static int cutAsNew(int empty) {
+        Blockduty x = new Blockduty();
+        x.place(1, empty, 0, true);
+        x.trip(0, 0, 0, 100, 120);
+        x.trip(0, 1, 0, 230, 120);
+        x.block(999);
+        x.append(0, 0);
+        x.append(0, 1);
+        return x.cut(0);
     }
 
     private static void spellEnds() {
