@@ -110,13 +110,7 @@ public final class AskedTest {
         x.trip(0, 0, 1, 100, 30);
         x.trip(0, 2, 0, 141, 20);
         x.trip(0, 0, 0, 170, 20);
-        x.block(999);
-        for (int t = 0; t < 3; t++) {
-            x.append(0, t);
-        }
-        x.cut(0);
-        x.driver();
-        x.give(0, 0, 0);
+        County.runInOneBlock(x);
         x.delay(0, 4);
         Check.is("19: just in time", 0, x.ofTrip(1, 9));
         x.delay(0, 5);
@@ -146,13 +140,7 @@ public final class AskedTest {
         x.trip(0, 0, 0, 100, 30);
         x.trip(1, 1, 1, 200, 30);
         x.trip(0, 2, 2, 265, 30);
-        x.block(999);
-        for (int t = 0; t < 3; t++) {
-            x.append(0, t);
-        }
-        x.cut(0);
-        x.driver();
-        x.give(0, 0, 0);
+        County.runInOneBlock(x);
         x.delay(0, 110);
         // 240 and 60 to the second; without it 240 and 30 to the third.
         Check.is("19: too LATE", 6, x.ofTrip(1, 8));
@@ -309,12 +297,7 @@ public final class AskedTest {
         Blockduty late = new Blockduty();
         late.trip(1, 0, 0, 480, 50);
         late.trip(0, 0, 0, 540, 50);
-        late.block(999);
-        late.append(0, 0);
-        late.append(0, 1);
-        late.cut(0);
-        late.driver();
-        late.give(0, 0, 0);
+        County.runInOneBlock(late);
         late.line(1, 10, true);
         Check.is("22: from the first START", 120, late.ofPiece(0, 0, 5));
         int[] due = {0, 1, 2, 110, 0, 120};

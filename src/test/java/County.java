@@ -15,13 +15,18 @@ final class County {
     /** Three hourly TRIPS in one BLOCK, with one PIECE, that the one DRIVER has. */
     static Blockduty running() {
         Blockduty x = hourly(3);
+        runInOneBlock(x);
+        return x;
+    }
+
+    /** Puts all TRIPS, in their order, into a first BLOCK with one PIECE, that a DRIVER gets. */
+    static void runInOneBlock(Blockduty x) {
         x.block(999);
-        for (int i = 0; i < 3; i++) {
+        for (int i = 0; i < x.many(0); i++) {
             x.append(0, i);
         }
         x.cut(0);
         x.driver();
         x.give(0, 0, 0);
-        return x;
     }
 }

@@ -98,13 +98,7 @@ public final class SupposedTest {
         y.trip(0, 0, 0, 100, 20);
         y.trip(0, 0, 0, 124, 100);
         y.trip(0, 0, 0, 228, 20);
-        y.block(999);
-        for (int t = 0; t < 3; t++) {
-            y.append(0, t);
-        }
-        y.cut(0);
-        y.driver();
-        y.give(0, 0, 0);
+        County.runInOneBlock(y);
         y.delay(1, 60);
         Check.is("28: too LATE", 6, y.ofTrip(2, 8));
         Check.is("28: two instead of one", 1, y.wouldLose(0, 124));
@@ -147,15 +141,9 @@ public final class SupposedTest {
         x.trip(0, 0, 0, 100, 20);
         x.trip(0, 0, 0, 124, 100);
         x.trip(0, 0, 0, 228, 20);
-        x.block(999);
-        for (int t = 0; t < 3; t++) {
-            x.append(0, t);
-        }
-        x.cut(0);
-        x.driver();
-        x.give(0, 0, 0);
+        County.runInOneBlock(x);
         x.delay(1, 30);
-        // With 0 to 8 the third is 26 to 30 LATE; up to 34 it is LOST; then the second is, up to 120.
+        // Up to 8 the third is at most 30 LATE, up to 34 it is LOST, and then the second one is.
         Check.is("29: none LOST", 8, x.mayDelay(0));
         x.delay(1, 60);
         // The third is LOST with 0; behind 34 the second is, and the third is in time up to 138.

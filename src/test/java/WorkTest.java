@@ -73,12 +73,7 @@ public final class WorkTest {
         Blockduty x = new Blockduty();
         x.trip(0, 0, 0, 0, 60);
         x.trip(0, 0, 0, 100, 61);
-        x.block(999);
-        x.append(0, 0);
-        x.append(0, 1);
-        x.cut(0);
-        x.driver();
-        x.give(0, 0, 0);
+        County.runInOneBlock(x);
         x.rules(900, 60);
         Check.notNow("13: can not be CUT", x, () -> x.cut(0));
         Check.is("13: it stays as it was", 0, x.ofPiece(0, 0, 4));
