@@ -22,8 +22,18 @@ public final class FaceTest {
         "int winter(int,int)", "int wouldLose(int,int)",
     };
 
+    /** The letters of the exceptions that each call says it throws, in the document's order. */
+    private static final String[] THROWS = {
+        "append IS", "at IA", "bestSwap IA", "block AS", "breakdown IA", "build A", "cut IS",
+        "delay IA", "digest ", "driver S", "give IS", "leastBlocks ", "line IA", "lost I",
+        "many A", "mayDelay I", "meanLate ", "ofBlock IA", "ofDriver IA", "ofPiece IA",
+        "ofTrip IA", "place IAS", "rules A", "sick I", "swap IAS", "takeBack I", "takeOff IS",
+        "trip IAS", "winter A", "wouldLose IA",
+    };
+
     public static void main(String[] args) {
         checkFace();
+        checkThrows();
         checkMembers();
         checkSizes();
         Check.end();
@@ -51,6 +61,27 @@ public final class FaceTest {
         }
         Set<String> due = new TreeSet<>(Arrays.asList(FACE));
         Check.isTrue("the face is " + found, found.equals(due));
+    }
+
+    private static String letter(Class<?> thrown) {
+        return thrown == IndexOutOfBoundsException.class ? "I"
+                : thrown == IllegalArgumentException.class ? "A"
+                : thrown == IllegalStateException.class ? "S" : "?";
+    }
+
+    private static void checkThrows() {
+        Set<String> found = new TreeSet<>();
+        for (Method method : Blockduty.class.getDeclaredMethods()) {
+            if (Modifier.isPublic(method.getModifiers())) {
+                StringBuilder told = new StringBuilder(method.getName()).append(' ');
+                for (Class<?> thrown : method.getExceptionTypes()) {
+                    told.append(letter(thrown));
+                }
+                found.add(told.toString());
+            }
+        }
+        Set<String> due = new TreeSet<>(Arrays.asList(THROWS));
+        Check.isTrue("the exceptions are " + found, found.equals(due));
     }
 
     private static void checkMembers() {

@@ -1,9 +1,14 @@
+import java.math.BigInteger;
+import java.util.ArrayList;
+import java.util.List;
+
 /** Promises 27 to 31: what would be. */
 public final class SupposedTest {
     public static void main(String[] args) {
         leastBlocks();
         leastBlocksByOthers();
         leastBlocksOfMany();
+        leastBlocksByAllOthers();
         wouldLose();
         mayDelay();
         mayDelayAgain();
@@ -72,6 +77,25 @@ public final class SupposedTest {
             back.trip(0, 0, 0, 80 * i, 60);
         }
         Check.is("27: told backwards", 1, back.leastBlocks());
+    }
+
+    /** The last pair can only be had, if 13 other TRIPS change the one that FOLLOWS them. */
+    private static void leastBlocksByAllOthers() {
+        int[] x = {50, 43, 4, 20, 20, 46, 12, 42};
+        int[][] trips = {
+            {0, 5, 568, 16}, {6, 6, 774, 100}, {2, 0, 673, 17}, {0, 7, 470, 63},
+            {7, 1, 586, 85}, {2, 4, 734, 7}, {7, 5, 491, 74}, {0, 6, 110, 113},
+            {4, 4, 726, 46}, {1, 7, 800, 118}, {4, 2, 138, 17}, {3, 5, 1231, 76},
+            {4, 7, 999, 58}, {2, 0, 168, 102}, {4, 0, 955, 44}, {6, 6, 1236, 71},
+        };
+        Blockduty county = new Blockduty();
+        for (int place = 0; place < 8; place++) {
+            county.place(place, x[place], 0, false);
+        }
+        for (int[] trip : trips) {
+            county.trip(0, trip[0], trip[1], trip[2], trip[3]);
+        }
+        Check.is("27: many changes", 2, county.leastBlocks());
     }
 
     private static void wouldLose() {
@@ -233,39 +257,52 @@ public final class SupposedTest {
         Check.is("30: of several the smallest", 0, x.bestSwap(0, 1));
     }
 
-    /** The digest again, from the answers of the other calls. */
-    private static long summed(Blockduty x) {
-        long d = 58195;
+    /** What the digest is of, in its order, from the answers of the other calls. */
+    private static List<Integer> digested(Blockduty x) {
+        List<Integer> all = new ArrayList<>();
         for (int what = 0; what <= 8; what++) {
-            d = d * 31 + x.many(what);
+            all.add(x.many(what));
         }
         for (int cause = 1; cause <= 6; cause++) {
-            d = d * 31 + x.lost(cause);
+            all.add(x.lost(cause));
         }
         for (int t = 0; t < x.many(0); t++) {
             for (int what = 0; what <= 10; what++) {
-                d = d * 31 + x.ofTrip(t, what);
+                all.add(x.ofTrip(t, what));
             }
-            d = d * 31 + x.mayDelay(t);
+            all.add(x.mayDelay(t));
         }
         for (int b = 0; b < x.many(1); b++) {
             for (int what = 0; what <= 7; what++) {
-                d = d * 31 + x.ofBlock(b, what);
+                all.add(x.ofBlock(b, what));
             }
             for (int p = 0; p < x.ofBlock(b, 3); p++) {
                 for (int what = 0; what <= 5; what++) {
-                    d = d * 31 + x.ofPiece(b, p, what);
+                    all.add(x.ofPiece(b, p, what));
                 }
             }
-            d = d * 31 + x.wouldLose(b, 600);
+            all.add(x.wouldLose(b, 600));
         }
         for (int driver = 0; driver < x.many(2); driver++) {
             for (int what = 0; what <= 4; what++) {
-                d = d * 31 + x.ofDriver(driver, what);
+                all.add(x.ofDriver(driver, what));
             }
         }
-        d = d * 31 + x.leastBlocks();
-        return x.many(1) < 2 ? d : d * 31 + x.bestSwap(0, 1);
+        all.add(x.leastBlocks());
+        if (x.many(1) >= 2) {
+            all.add(x.bestSwap(0, 1));
+        }
+        return all;
+    }
+
+    /** Without a wrap-around up to the end; just the lowest 64 bits are left of that. */
+    private static long summed(Blockduty x) {
+        BigInteger d = BigInteger.valueOf(58195);
+        for (int v : digested(x)) {
+            d = d.multiply(BigInteger.valueOf(31)).add(BigInteger.valueOf(v));
+        }
+        Check.isTrue("31: it wraps around", d.bitLength() > 63);
+        return d.longValue();
     }
 
     private static void digest() {
